@@ -15,6 +15,10 @@ public final class PromiseTest {
       + "title t 5; title u 2; item t a; item t a; item u b; van 1 a b; van 2 b c a;\n"
       + "hold b t; hold c t; hold a u; grace 2; renews 1;";
 
+  /** From a on day 4 on it takes all of the 40 days to e: by b till day 24, by c till 35, by d on 39. */
+  private static final String FAR_TOWN = "branch a; branch b; branch c; branch d; branch e; branch f; branch g; branch h;"
+      + "van 1 a a a b a a a a; van 1 b f f f f f f c; van 1 c g g g d g g; van 1 h h h h e h h d;";
+
   private static int wrong = 0;
   private static int promise = 0;
 
@@ -121,6 +125,29 @@ public final class PromiseTest {
     }
     due("nothing", tell(x, ""), 0);
     due("no branches", x.count(1), 0);
+    again(town(12));
+  }
+
+  /** Nothing of an older text is left behind a new one. */
+  private static void again(LoanVans x) {
+    due("arrival(0, 1, 0)", x.arrival(0, 1, 0), 1);
+    due("lentOn(0)", x.lentOn(0), 2);
+    due("the other town", tell(x, "branch z closed 0; branch y closed 6; title z 1; item z z; item z z; van 1 z z y; hold y z; renews 2;"), 8);
+    due("branch(0, 0)", x.branch(0, 0), 0);
+    due("branch(1, 0)", x.branch(1, 0), 6);
+    due("arrival(0, 1, 0)", x.arrival(0, 1, 0), 2);
+    due("meanWait()", x.meanWait(), -2);
+    due("log(0, 0)", x.log(0, 0), -2);
+    due("van(0, 1)", x.van(0, 1), 3);
+    due("van(0, 4)", x.van(0, 4), 0);
+    due("item(0, 9)", x.item(0, 9), 0);
+    due("undo()", x.undo(), NONE);
+    due("lentOn(0)", x.lentOn(0), 3);
+    due("the town once more", tell(x, TOWN), 15);
+    due("branch(1, 0)", x.branch(1, 0), -2);
+    due("arrival(0, 1, 0)", x.arrival(0, 1, 0), 1);
+    due("van(1, 1)", x.van(1, 1), 3);
+    due("lentOn(1)", x.lentOn(1), 5);
   }
 
   private static void fault(String s, int which, int place) {
@@ -215,6 +242,10 @@ public final class PromiseTest {
     due("fault(0)", x.fault(0), 0);
     due("fault(1)", x.fault(1), NONE);
     due("no blanks", tell(x, "branch a closed6;title a1;van9a a;"), 3);
+    feed(x, "grace 31;");
+    due("a text that ends within a number", x.text(7), NONE);
+    due("fault(0)", x.fault(0), 1);
+    due("fault(1)", x.fault(1), 7);
     wrongTokens();
     numbersBeyond();
     fault("branch a; branch b; branch a", 3, 27);
@@ -481,6 +512,11 @@ public final class PromiseTest {
     due("lentOn(1)", x.lentOn(1), 5);
     due("log(0, 1)", x.log(0, 1), 0);
     due("log(1, 1)", x.log(1, 1), -2);
+    due("van(0, 4)", x.van(0, 4), 2);
+    x.renew(0);
+    due("item(0, 6)", x.item(0, 6), 1);
+    x.undo();
+    due("item(0, 6)", x.item(0, 6), 0);
   }
 
   private static void balances() {
@@ -526,6 +562,12 @@ public final class PromiseTest {
     due("inVan(2, 0)", x.inVan(2, 0), NONE);
     due("inVan(-1, 0)", x.inVan(-1, 0), NONE);
     due("inVan(0, -1)", x.inVan(0, -1), NONE);
+    LoanVans y = of("branch a; branch b; title t 9; item t b; item t a; item t a; item t a; van 3 a b;"
+        + "hold b t; hold b t; hold b t; hold b t;");
+    y.days(1);
+    for (int k = 0; k < 4; k++) {
+      due("inVan(0, " + k + ")", y.inVan(0, k), k < 3 ? k + 1 : -2);
+    }
   }
 
   private static void waiting() {
@@ -582,10 +624,16 @@ public final class PromiseTest {
     due("arrival(0, 3, 0)", x.arrival(0, 3, 0), NONE);
     LoanVans y = of("branch a; branch b; van 1 a a;");
     due("no way", y.arrival(0, 1, 0), -2);
-    // Van 0 is at b each 7th day, van 1 each 8th; c follows on b only where both meet.
     LoanVans z = of("branch a; branch b; branch c; van 1 a a a a a a b; van 1 a a a a a a a c;");
     due("a round and no more", z.arrival(1, 0, 0), 7);
-    due("within 40 days", z.arrival(1, 2, 0), 15);
+    due("by two vans", z.arrival(1, 2, 0), 15);
+    LoanVans far = of(FAR_TOWN);
+    due("40 days", far.arrival(0, 4, 4), 44);
+    due("more than 40 days", far.arrival(0, 4, 3), -2);
+    due("more than 40 days", far.leg(0, 4, 3, 0), -2);
+    due("reach(0, 4, 40)", far.reach(0, 4, 40), 8);
+    due("reach(0, 4, 39)", far.reach(0, 4, 39), 7);
+    due("legs(0, 4, 4): it goes round, as long as it is in time", far.legs(0, 4, 4), 31);
   }
 
   private static void firstLegs() {
@@ -870,6 +918,9 @@ public final class PromiseTest {
     due("center(2)", x.center(2), NONE);
     due("center(-1)", x.center(-1), NONE);
     due("no branches", new LoanVans().center(1), -2);
+    x.days(2);
+    due("center(0) on day 2", x.center(0), 0);
+    due("center(1) on day 2", x.center(1), 3);
     LoanVans y = of("branch a; branch b; branch c;");
     due("center(0): of like ones the least", y.center(0), 0);
     due("center(1)", y.center(1), 82);
@@ -961,6 +1012,8 @@ public final class PromiseTest {
     due("ifClosed(2, 0, -1)", x.ifClosed(2, 0, -1), 3);
     due("ifClosed(2, 0, 4)", x.ifClosed(2, 0, 4), 3);
     due("ifClosed(2, 0, 3)", x.ifClosed(2, 0, 3), 4);
+    due("ifClosed(2, 0, 6)", x.ifClosed(2, 0, 6), 3);
+    due("ifClosed(2, 0, 0)", x.ifClosed(2, 0, 0), 3);
     due("ifClosed(2, 0, 7)", x.ifClosed(2, 0, 7), NONE);
     due("ifClosed(2, 0, -2)", x.ifClosed(2, 0, -2), NONE);
     due("ifClosed(3, 0, 0)", x.ifClosed(3, 0, 0), NONE);
