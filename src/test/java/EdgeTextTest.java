@@ -190,6 +190,10 @@ public final class EdgeTextTest {
     says("terms1", "Blanks 10, 32.");
     good("\n \nbranch \n a\nclosed  1 \n;\n\n", 1);
     good(" title\nt\n1\n;", 1);
+    faultAt("^gra ce 1;", 1);
+    faultAt("branch a; ^bran\nch b;", 1);
+    faultAt("grace 1 ^0;", 1);
+    faultAt("grace 1\n^0;", 1);
     for (int c : new int[] {0, 9, 11, 12, 13, 31, 33, 127, 160, 255}) {
       faultAt("branch ^" + (char) c + "a;", 1);
       faultAt("branch a;^" + (char) c, 1);
@@ -369,6 +373,10 @@ public final class EdgeTextTest {
     int[] want = {84, 8, 6, 24, 4, 40, 0, 30, 9, 0, 40, 0, 0, 0};
     for (int what = 0; what < want.length; what++) {
       due("count(" + what + ")", x.count(what), want[what]);
+    }
+    for (String word : WORDS) {
+      int which = word.equals("closed") ? 1 : word.equals("grace") || word.equals("renews") ? 3 : 2;
+      faultAt(Edge.FULL + "^" + word + " i 1;", which);
     }
   }
 
