@@ -141,6 +141,22 @@ public final class EdgeTermsTest {
 
   // ---- terms 2: holds and the order of a day
 
+  static void terms2_aHoldIsOneOfFive() {
+    says("terms2", "A HOLD is OPEN (it has no ITEM), READY (it has one, not LENT yet), LENT, OVER (the ITEM came back), or CANCELLED.");
+    LoanVans x = of(AB + "title t 2; item t a; hold b t; hold b t; van 1 a b;");
+    int[][] want = {{0, -2}, {1, 0}, {1, 0}, {2, 0}, {2, 0}, {3, 0}};
+    for (int day = 0; day < want.length; day++) {
+      due("holdOf(0, 2) on day " + day, x.holdOf(0, 2), want[day][0]);
+      due("holdOf(0, 3) on day " + day, x.holdOf(0, 3), want[day][1]);
+      due("the next one has none till it came back, on day " + day, x.holdOf(1, 2), day < 5 ? 0 : 2);
+      x.days(1);
+    }
+    Edge.due("cancel(1) that is lent", x.cancel(1), false);
+    x.hold(0, 0);
+    x.cancel(2);
+    due("holdOf(2, 2)", x.holdOf(2, 2), 4);
+  }
+
   static void terms2_freeIsAnItemAtABranchThatNoHoldHas() {
     says("terms2", "FREE is an ITEM at a BRANCH that no HOLD has.");
     LoanVans x = of(AB + "title t 2; item t a; van 1 a b;");
@@ -282,6 +298,27 @@ public final class EdgeTermsTest {
     due("it waits", y.waits(1, 0), 0);
     y.days(2);
     due("it boards then", y.inVan(0, 0), 0);
+  }
+
+  static void terms2_dThatHaveAnotherOneToGoTo() {
+    says("terms2", "that have another one to go to (that of their HOLD; of FREE ones their HOME)");
+    LoanVans x = of("branch a closed 2; branch b; title t 9; title u 9; title v 9; item t b; item u a; item v a; van 9 b a;"
+        + "hold a t; hold a v;");
+    due("at first all are at home", x.waits(0, 0), -2);
+    x.days(2);
+    x.hold(0, 0);
+    due("one at the branch of its hold has none, though its home is another one", x.waits(0, 0), -2);
+    x.days(1);
+    due("van(0, 3)", x.van(0, 3), 0);
+    x.cancel(0);
+    due("free away from its home it has one", x.waits(0, 0), 0);
+    due("free at home it has none", x.waits(0, 1), -2);
+    x.undo();
+    x.hold(1, 1);
+    x.days(1);
+    due("one that goes from its home to its hold boards", x.inVan(0, 0), 1);
+    due("one that is lent stays", x.item(2, 2), 2);
+    due("one that is lent stays", x.item(0, 2), 2);
   }
 
   static void terms2_dFreeOnesByNumbers() {
